@@ -4,6 +4,7 @@ public final class ImagesTest {
 
     public static void main(String[] args) {
         images();
+        listsKept();
         eachPartKept();
         count();
         digest();
@@ -47,6 +48,37 @@ public final class ImagesTest {
         C.due(1, x, "from", 1);
         C.due(0, x, "count", 6);
         C.due(3, x, "count", 3);
+    }
+
+    /** What came after the image in a place of a list does not stay there. */
+    private static void listsKept() {
+        StoneRiver x = full();
+        x.image(0);
+        long full = x.digest();
+        Check.type(x, "cliff 1 1;boulder 1 1;scratch 1 1;ridge;find 0 0 1;ice 1 1 1;");
+        C.due(6, x, "read");
+        C.due(1, x, "from", 0);
+        C.due(full, x, "digest");
+        StoneRiver y = new StoneRiver();
+        y.ridge();
+        y.image(0);
+        y.cliff(1, 2);
+        y.boulder(1, 2);
+        y.scratch(1, 2);
+        y.fact(0, 3, 0, 4, 0);
+        y.sign(0, 1, 2, 3);
+        y.image(1);
+        long first = y.digest();
+        y.from(0);
+        y.cliff(5, 1);
+        y.boulder(5, 1);
+        y.scratch(5, 1);
+        y.fact(1, 4, 0, 5, 0);
+        y.sign(2, 5, 6, 7);
+        C.due(1, y, "from", 1);
+        C.due(first, y, "digest");
+        C.due(1, y, "stand", 3);
+        C.due(4, y, "age", 0, 1, 1);
     }
 
     private static StoneRiver full() {

@@ -12,6 +12,7 @@ public final class RidgesTest {
         age();
         ageByCuts();
         fewest();
+        fewestAnew();
         sure();
         core();
         parted();
@@ -233,6 +234,42 @@ public final class RidgesTest {
         C.due(0xf000, v, "fewest");
     }
 
+    /** Facts that are alike but for one number, each asked after the one ahead. */
+    private static void fewestAnew() {
+        StoneRiver x = ridges(2);
+        x.image(0);
+        int[][] seconds = {{0, FIND, 0, 4, 0}, {0, FIND, 1, 4, 0}, {0, FIND, 0, 4, 0}, {0, MAP, 0, 4, 0},
+            {0, MAP, 0, 10, 0}, {0, MAP, 0, 9, 0}, {0, WOOD, 0, 0, 5}, {0, WOOD, 0, 0, 4}};
+        int[] due = {1, 0, 1, 0, 1, 0, 0, 1};
+        for (int order = 0; order < 2; order++) {
+            for (int i = 0; i < due.length; i++) {
+                x.from(0);
+                if (order == 0) {
+                    x.fact(0, WOOD, 0, 5, 9);
+                }
+                x.fact(0, seconds[i][1], seconds[i][2], seconds[i][3], seconds[i][4]);
+                if (order == 1) {
+                    x.fact(0, WOOD, 0, 5, 9);
+                }
+                C.due(due[i], x, "fewest");
+            }
+        }
+        StoneRiver y = ridges(1);
+        y.fact(0, LICHEN, 0, 10, 0);
+        y.fact(0, WOOD, 0, 301, 310);
+        C.due(1, y, "fewest");
+        y.put(5, 31);
+        C.due(0, y, "fewest");
+        y.put(5, 30);
+        C.due(1, y, "fewest");
+        y.put(5, 99);
+        C.due(0, y, "fewest");
+        y.put(4, 32);
+        C.due(1, y, "fewest");
+        y.put(4, 31);
+        C.due(0, y, "fewest");
+    }
+
     private static void sure() {
         StoneRiver x = ridges(4);
         C.due(0, x, "sure", 0, 1);
@@ -330,6 +367,13 @@ public final class RidgesTest {
         x.fact(1, FIND, 3, 50, 0);
         C.due(-5, x, "parted");
         C.due(-1, ridges(8), "parted");
+        // the other way round, and the first fact of the second scholar
+        StoneRiver y = ridges(2);
+        y.fact(1, FIND, 1, 50, 0);
+        y.fact(0, MAP, 1, 50, 0);
+        C.due(-1, y, "parted");
+        y.fact(0, MAP, 1, 51, 0);
+        C.due(1, y, "parted");
     }
 
     /** Three ridges of few years, all ages gone through one by one. */

@@ -150,6 +150,7 @@ public final class StandsTest {
         x.sign(AT, 5, 3, 3);
         row(x, 0, 0, 5);
         x.image(1);
+        staleByOneNumber();
         StoneRiver y = new StoneRiver();
         y.sign(AT, 6, 3, 3);
         row(y, 0, 0, 6);
@@ -166,6 +167,26 @@ public final class StandsTest {
         Check.retype(x, "at 9 5 5;");
         C.due(1, x, "read");
         row(x, 4, 5, 9);
+    }
+
+    /** Signs that are alike but for one number, each asked after the one ahead: as of a new object. */
+    private static void staleByOneNumber() {
+        StoneRiver x = new StoneRiver();
+        x.image(0);
+        int[][] firsts = {{ICE, 5, 3, 4}, {FREE, 5, 3, 4}, {AT, 5, 3, 4}, {AT, 6, 3, 4}, {AT, 6, 2, 4}, {AT, 6, 2, 2}};
+        int[] travels = {5, 0, 5, 6, 6, 6};
+        for (int i = 0; i < firsts.length; i++) {
+            x.from(0);
+            x.sign(firsts[i][0], firsts[i][1], firsts[i][2], firsts[i][3]);
+            x.sign(AT, 0, 5, 6);
+            StoneRiver fresh = new StoneRiver();
+            fresh.sign(firsts[i][0], firsts[i][1], firsts[i][2], firsts[i][3]);
+            fresh.sign(AT, 0, 5, 6);
+            C.due(travels[i], x, "stand", -1);
+            for (int year = -1; year < 40; year++) {
+                C.due(fresh.stand(year), x, "stand", year);
+            }
+        }
     }
 
     /** Years 0 to 5 with fronts to 3, one front from then on: all rows gone through, the first one first. */

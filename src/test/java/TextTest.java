@@ -75,6 +75,14 @@ public final class TextTest {
         // what stood there ahead does not come back
         C.due(1, x, "type", ';', 1);
         C.due(0, x, "fault");
+        Check.retype(x, "ridgeridge 1234567");
+        Check.retype(x, "ridge");
+        C.due(5, x, "fault");
+        Check.retype(x, "cliff 123");
+        C.due(9, x, "fault");
+        Check.retype(x, "xxxxxxxxx4;");
+        Check.retype(x, "cliff 1 2");
+        C.due(9, x, "fault");
     }
 
     private static void fault(String text, int due) {
@@ -99,6 +107,16 @@ public final class TextTest {
         fault(";", 0);
         fault("  ;", 2);
         fault("ridge;;", 6);
+        fault("ridgez;", 0);
+        fault("ridgea;", 0);
+        fault("aridge;", 0);
+        fault("xidge;", 0);
+        fault("xliff 1 2;", 0);
+        fault("clifx 1 2;", 0);
+        fault("ridge ridg;", 6);
+        fault("ridge 12345;", 6);
+        fault("ridge ,;", 6);
+        fault("cliff 1 2 rid;", 10);
         fault("5;", 0);
         fault("ridges;", 0);
         fault("ridg", 0);

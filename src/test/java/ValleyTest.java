@@ -257,7 +257,14 @@ public final class ValleyTest {
         C.due(3, x, "home", 0);
         x.cliff(25, 1);
         C.due(6, x, "home", 0);
-        C.ranges(-2, x, "home", new long[] {0}, 0, 0);
+        x.boulder(25, 0);
+        C.due(0, x, "home", 1);
+        x.boulder(0, 1);
+        C.due(1, x, "home", 2);
+        C.due(2 + 4 + 8 + 16 + 64, x, "fits", 0);
+        C.due(2, x, "fits", 2);
+        C.due(1, x, "fits", 1);
+        C.ranges(-2, x, "home", new long[] {0}, 0, 2);
     }
 
     private static void upstream() {

@@ -69,10 +69,22 @@ public final class WarmthTest {
         C.due(-1, x, "warm", 0, 60, 0);
         C.due(-1, x, "warm", 0, 60, 1);
         C.due(60, x, "warm", 1, 60, 1);
+        C.due(46, x, "warm", 1, 60, 0);
         C.due(41, x, "warm", 0, 40, 0);
         C.due(60, x, "warm", 0, 40, 1);
         C.due(1, x, "warm", 0, 0, 0);
         C.due(0, x, "warm", 20, 0, 1);
+        // all at 60 but the last at 38: 21 of snow in all are gone at 60 alone
+        StoneRiver y = new StoneRiver();
+        for (int zone = 0; zone < 20; zone++) {
+            y.zone(zone, 60);
+        }
+        y.zone(20, 38);
+        y.put(3, 1);
+        C.due(60, y, "warm", 19, 1, 0);
+        C.due(60, y, "warm", 19, 1, 1);
+        C.due(59, y, "warm", 20, 1, 1);
+        C.due(0, y, "warm", 20, 1, 0);
     }
 
     private static void byTheWords(Random random) {
