@@ -187,6 +187,9 @@ public final class StandsTest {
                 C.due(fresh.stand(year), x, "stand", year);
             }
         }
+        x.from(0);
+        C.due(0, x, "stand", -1);
+        C.due(0, x, "stand", 5);
     }
 
     /** Years 0 to 5 with fronts to 3, one front from then on: all rows gone through, the first one first. */
