@@ -6,8 +6,13 @@ import java.util.Map;
 final class Check {
     private static final Map<String, Method> METHODS = new HashMap<>();
     private static final int[] FAR = {Integer.MIN_VALUE, Integer.MAX_VALUE};
+    private static final long LONGEST_TEST = 300_000;
 
     static {
+        // a call that does not end is wrong, too
+        Thread watch = new Thread(Check::endAfterAll);
+        watch.setDaemon(true);
+        watch.start();
         for (Method method : StoneRiver.class.getDeclaredMethods()) {
             METHODS.put(method.getName(), method);
         }
@@ -15,6 +20,16 @@ final class Check {
 
     private int asked;
     private int wrong;
+
+    private static void endAfterAll() {
+        try {
+            Thread.sleep(LONGEST_TEST);
+        } catch (InterruptedException e) {
+            System.out.println("the watch was stopped");
+        }
+        System.out.println("a call did not end");
+        Runtime.getRuntime().halt(1);
+    }
 
     /** Calls the method of that name; an exception counts as a failure of the whole test. */
     static long call(StoneRiver x, String name, long... args) {
@@ -76,6 +91,14 @@ final class Check {
     static void retype(StoneRiver x, String text) {
         x.clear();
         type(x, text);
+    }
+
+    int asked() {
+        return asked;
+    }
+
+    int wrong() {
+        return wrong;
     }
 
     void end() {
